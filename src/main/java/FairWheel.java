@@ -578,9 +578,8 @@ public final class FairWheel {
             return op < 0 || op >= opCount[task] || at < 0 || at >= codes.length ? NONE : at;
         }
 
-        /** How much there is to do of an OP before it is begun: 0 but for work. */
-        int workOf(int task, int op) {
-            int at = opAt(task, op);
+        /** How much there is to do of the OP at a place that opAt() found: 0 but for work. */
+        int workAt(int at) {
             return at == NONE || codes[at] != WORK ? 0 : numbers[at];
         }
     }
@@ -921,7 +920,7 @@ public final class FairWheel {
             plan = told;
             now = 0;
             for (int i = 0; i < plan.count; i++) {
-                tasks[i].begin(plan.shares[i], plan.opCount[i], plan.workOf(i, 0));
+                tasks[i].begin(plan.shares[i], plan.opCount[i], plan.workAt(plan.opAt(i, 0)));
                 settleOwn(i);
             }
             for (int i = 0; i < MAX_LOCKS; i++) {
@@ -1189,7 +1188,7 @@ public final class FairWheel {
             Task one = tasks[who];
             one.stop(READY, NONE);
             one.op++;
-            one.left = plan.workOf(who, one.op);
+            one.left = plan.workAt(plan.opAt(who, one.op));
             return one.op >= plan.opCount[who];
         }
 
@@ -1226,7 +1225,7 @@ public final class FairWheel {
             return NONE;
         }
 
-        /** The foremost of those LOCKED for a lock, by PLACES that lend() has just found, holds it now: who, or NONE. */
+        /** The foremost of those LOCKED for a lock, by PLACES as lend() found them, holds it now: who, or NONE. */
         private int letGo(int lock) {
             int heir = NONE;
             for (int i = 0; i < plan.count; i++) {
