@@ -1369,11 +1369,9 @@ public final class FairWheel {
             for (int i = 0; i < MAX_LOCKS; i++) {
                 steps[i] = i == goal ? 0 : MAX_LOCKS + 1;
             }
-            for (int round = 0; round < MAX_LOCKS; round++) {
+            for (int turn = 0; turn < MAX_LOCKS; turn++) {
                 for (int i = 0; i < MAX_LOCKS; i++) {
-                    if (i != goal) {
-                        steps[i] = Math.min(steps[i], fewestBehind(i) + 1);
-                    }
+                    steps[i] = Math.min(steps[i], fewestBehind(i) + 1);
                 }
             }
         }

@@ -9,6 +9,7 @@ public final class WheelTest {
         restAndShare();
         lentThroughAChain();
         lentToOneWithoutBudget();
+        heirs();
         endsAtOnce();
         errors();
         ringOfThree();
@@ -173,6 +174,24 @@ public final class WheelTest {
         tasks("lent", x, 0, 4, 3, 0, 0, 0, 1, 0, 10, 0, -1, 0, 5, 5);
         Due.due("both ended", x.about(5), 0);
         Due.due("nobody holds it", x.holder(0), -1);
+    }
+
+    /** A lock goes on by places as they are then: h lends its own to b in the very tick in which a lets go. */
+    private static void heirs() {
+        String others = "task c fair share 1 work 1 lock 0 work 1;task b batch share 1 lock 1 lock 0 work 1;"
+                + "task h deadline every 20 budget 19 share 1 work 5 lock 1 work 1;";
+        String[] firsts = {"task a fair share 1 lock 0 work 4 unlock 0 work 9;", "task a fair share 1 lock 0 work 5;"};
+        for (String first : firsts) {
+            FairWheel x = Due.of("cores 4;locks 2;" + first + others);
+            x.run(5);
+            Due.due("c and b wait", x.waits(0), 6);
+            Due.due("b has its own place", x.place(2), 2);
+            x.run(1);
+            Due.due("h waits", x.waits(1), 8);
+            Due.due("b is ahead by h", x.holder(0), 2);
+            Due.due("c waits on", x.waits(0), 2);
+            Due.due("b has h's place", x.place(2), 3);
+        }
     }
 
     private static void endsAtOnce() {
