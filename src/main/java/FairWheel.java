@@ -102,9 +102,9 @@ public final class FairWheel {
     /** An empty KERNEL. */
     public FairWheel() {
         tape = new Tape();
-        reader = new Reader();
         plan = new Plan();
         draft = new Plan();
+        reader = new Reader(tape, draft);
         live = new Wheel(plan);
         trial = new Wheel(plan);
         rows = new int[MAX_TICK];
@@ -142,7 +142,7 @@ public final class FairWheel {
 
     /** The TAPE is the KERNEL: how many TASKS; NONE: a FAULT, and all stays. */
     public int kernel() {
-        if (!reader.read(tape, draft)) {
+        if (!reader.read(draft)) {
             return NONE;
         }
         Plan told = draft;
@@ -586,7 +586,7 @@ public final class FairWheel {
 
     /** Parts a text into TOKENS. */
     private static final class Scanner {
-        private Tape tape;
+        private final Tape tape;
         private int at;
         /** Of the TOKEN at hand: its place, its sort, its letters as one number, its value. */
         int start;
@@ -594,13 +594,12 @@ public final class FairWheel {
         long letters;
         int value;
 
-        Scanner() {
-            tape = new Tape();
+        Scanner(Tape text) {
+            tape = text;
             at = 0;
         }
 
-        void begin(Tape text) {
-            tape = text;
+        void begin() {
             at = 0;
         }
 
@@ -666,7 +665,7 @@ public final class FairWheel {
 
     /** Reads a text line by line into a plan, till its first FAULT. */
     private static final class Reader {
-        private final Scanner scanner = new Scanner();
+        private final Scanner scanner;
         private Plan into;
         /** Which of cores, locks and bells were told, as bits. */
         private int told;
@@ -674,13 +673,18 @@ public final class FairWheel {
         int found = 0;
         int foundAt = NONE;
 
-        boolean read(Tape tape, Plan plan) {
+        Reader(Tape tape, Plan first) {
+            scanner = new Scanner(tape);
+            into = first;
+        }
+
+        boolean read(Plan plan) {
             into = plan;
             into.clear();
             told = 0;
             found = 0;
             foundAt = NONE;
-            scanner.begin(tape);
+            scanner.begin();
             scanner.next();
             for (int i = 0; i <= MAX_BYTES && scanner.code != TEXT_END; i++) {
                 boolean good = scanner.code == TASK ? readTask() : readCount();
