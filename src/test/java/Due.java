@@ -58,6 +58,30 @@ final class Due {
         return x;
     }
 
+    /** Of a text on a new object: its fault and the fault's place, 0 and -1 if it has none. */
+    static void fault(String text, int fault, int place) {
+        FairWheel x = new FairWheel();
+        int tasks = kernel(x, text);
+        due("fault of '" + text + "'", x.fault(0), fault);
+        due("its place in '" + text + "'", x.fault(1), place);
+        due("kernel of '" + text + "'", tasks == -1, fault != 0);
+    }
+
+    static void good(String text) {
+        fault(text, 0, -1);
+    }
+
+    static String blanks(int n) {
+        return " ".repeat(n);
+    }
+
+    /** What is to be seen of a task by whats 0 on. */
+    static void dueTask(String what, FairWheel x, int task, int... want) {
+        for (int i = 0; i < want.length; i++) {
+            due(what + " task(" + task + ", " + i + ")", x.task(task, i), want[i]);
+        }
+    }
+
     /** The choices of one processor in ticks 0 on: a digit each, '-' for none. */
     static String row(FairWheel x, int processor) {
         StringBuilder row = new StringBuilder();

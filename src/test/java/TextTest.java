@@ -111,101 +111,91 @@ public final class TextTest {
         Due.due("no place now", x.fault(1), -1);
     }
 
-    private static void fault(String text, int fault, int place) {
-        FairWheel x = new FairWheel();
-        int tasks = Due.kernel(x, text);
-        Due.due("fault of '" + text + "'", x.fault(0), fault);
-        Due.due("its place in '" + text + "'", x.fault(1), place);
-        if (fault != 0) {
-            Due.due("kernel of '" + text + "'", tasks, -1);
-        }
-    }
-
     private static void faults() {
-        fault("", 0, -1);
-        fault(" \n ", 0, -1);
-        fault("cores1;locks0;bells0;taskless", 2, 21);
-        fault("cores", 2, 5);
-        fault("cores  ", 2, 7);
-        fault("cores 1", 2, 7);
-        fault("cores 1\n", 2, 8);
-        fault("cores;", 2, 5);
-        fault("cores x;", 2, 6);
-        fault("cores 1 1;", 2, 8);
-        fault("cores 1;cores 1;", 2, 8);
-        fault("locks 1;cores 1;locks x", 2, 16);
-        fault("bells 1;bells 9;", 2, 8);
-        fault("cores 0;", 4, 6);
-        fault("cores 5;", 4, 6);
-        fault("cores 9999 x", 4, 6);
-        fault("cores 0004;", 0, -1);
-        fault("locks 7;", 4, 6);
-        fault("locks 0;bells 0;", 0, -1);
-        fault("locks 6;bells 4;cores 4;", 0, -1);
-        fault("bells 5;", 4, 6);
-        fault(";", 2, 0);
-        fault("7", 2, 0);
-        fault("fair", 2, 0);
-        fault("work 1;", 2, 0);
-        fault("name", 2, 0);
-        fault("Cores 1;", 1, 0);
-        fault("cores\t1;", 1, 5);
-        fault("cores\r1;", 1, 5);
-        fault("cores -1;", 1, 6);
-        fault("cores 12345;", 1, 6);
-        fault("cores 00001;", 1, 6);
-        fault("cores 1a;", 1, 6);
-        fault("cores 5a;", 1, 6);
-        fault("cores 1A;", 1, 7);
-        fault("abcdefgh", 2, 0);
-        fault("abcdefghi", 1, 0);
-        fault("task", 2, 4);
-        fault("task;", 2, 4);
-        fault("task 1", 2, 5);
-        fault("task task fair share 1;", 2, 5);
-        fault("task sleep fair share 1;", 2, 5);
-        fault("task deadline fair share 1;", 2, 5);
-        fault("task abcdefgh fair share 1;", 0, -1);
-        fault("task abcdefghi fair share 1;", 1, 5);
-        fault("task a1 fair share 1;", 2, 6);
-        fault("task a", 2, 6);
-        fault("task a share 1;", 2, 7);
-        fault("task a b share 1;", 2, 7);
-        fault("task a fair 1;", 2, 12);
-        fault("task a fair share;", 2, 17);
-        fault("task a fair share 0;", 4, 18);
-        fault("task a fair share 1000;", 4, 18);
-        fault("task a fair share 999;", 0, -1);
-        fault("task a fair every 1 budget 1 share 1;", 2, 12);
-        fault("task a deadline share 1;", 2, 16);
-        fault("task a deadline every 0 budget 1 share 1;", 4, 22);
-        fault("task a server every 21 budget 1 share 1;", 4, 20);
-        fault("task a server every 20 share 1;", 2, 23);
-        fault("task a server every 20 budget 0 share 1;", 4, 30);
-        fault("task a server every 20 budget 100 share 1;", 4, 30);
-        fault("task a server every 20 budget 99 share 1;", 0, -1);
-        fault("task a deadline every1budget 9 share 1;", 1, 21);
-        fault("task a deadline every1 budget9 share1work1;", 1, 36);
-        fault("task a deadline every1 budget9 share1 work1;", 0, -1);
-        fault("task a fair share 1 work;", 2, 24);
-        fault("task a fair share 1 work 0;", 4, 25);
-        fault("task a fair share 1 work 100;", 4, 25);
-        fault("task a fair share 1 sleep 0;", 4, 26);
-        fault("task a fair share 1 sleep 100;", 4, 26);
-        fault("task a fair share 1 lock 100;", 4, 25);
-        fault("task a fair share 1 unlock 100;", 4, 27);
-        fault("task a fair share 1 wait 100;", 4, 25);
-        fault("task a fair share 1 ring 100;", 4, 25);
-        fault("task a fair share 1 lock 99 unlock 99 wait 99 ring 99 lock 0 unlock 0 wait 0 ring 0 work 99 sleep 99;", 0, -1);
-        fault("task a fair share 1 work 1", 2, 26);
-        fault("task a fair share 1 work 1;;", 2, 27);
-        fault("task a fair share 1 work 1 share 1;", 2, 27);
-        fault("task a fair share 1 work 1 task b", 2, 27);
-        fault("task a fair share 1;task a fair share 1;", 3, 25);
-        fault("task a fair share 1;task ab fair share 1;task b fair share 1;", 0, -1);
-        fault("task abcdefgh fair share 1;task abcdefgh", 3, 32);
-        fault("task\na\nfair\nshare\n1\nwork\n1\n;\n", 0, -1);
-        fault("task a fair share 1;.", 1, 20);
+        Due.fault("", 0, -1);
+        Due.fault(" \n ", 0, -1);
+        Due.fault("cores1;locks0;bells0;taskless", 2, 21);
+        Due.fault("cores", 2, 5);
+        Due.fault("cores  ", 2, 7);
+        Due.fault("cores 1", 2, 7);
+        Due.fault("cores 1\n", 2, 8);
+        Due.fault("cores;", 2, 5);
+        Due.fault("cores x;", 2, 6);
+        Due.fault("cores 1 1;", 2, 8);
+        Due.fault("cores 1;cores 1;", 2, 8);
+        Due.fault("locks 1;cores 1;locks x", 2, 16);
+        Due.fault("bells 1;bells 9;", 2, 8);
+        Due.fault("cores 0;", 4, 6);
+        Due.fault("cores 5;", 4, 6);
+        Due.fault("cores 9999 x", 4, 6);
+        Due.fault("cores 0004;", 0, -1);
+        Due.fault("locks 7;", 4, 6);
+        Due.fault("locks 0;bells 0;", 0, -1);
+        Due.fault("locks 6;bells 4;cores 4;", 0, -1);
+        Due.fault("bells 5;", 4, 6);
+        Due.fault(";", 2, 0);
+        Due.fault("7", 2, 0);
+        Due.fault("fair", 2, 0);
+        Due.fault("work 1;", 2, 0);
+        Due.fault("name", 2, 0);
+        Due.fault("Cores 1;", 1, 0);
+        Due.fault("cores\t1;", 1, 5);
+        Due.fault("cores\r1;", 1, 5);
+        Due.fault("cores -1;", 1, 6);
+        Due.fault("cores 12345;", 1, 6);
+        Due.fault("cores 00001;", 1, 6);
+        Due.fault("cores 1a;", 1, 6);
+        Due.fault("cores 5a;", 1, 6);
+        Due.fault("cores 1A;", 1, 7);
+        Due.fault("abcdefgh", 2, 0);
+        Due.fault("abcdefghi", 1, 0);
+        Due.fault("task", 2, 4);
+        Due.fault("task;", 2, 4);
+        Due.fault("task 1", 2, 5);
+        Due.fault("task task fair share 1;", 2, 5);
+        Due.fault("task sleep fair share 1;", 2, 5);
+        Due.fault("task deadline fair share 1;", 2, 5);
+        Due.fault("task abcdefgh fair share 1;", 0, -1);
+        Due.fault("task abcdefghi fair share 1;", 1, 5);
+        Due.fault("task a1 fair share 1;", 2, 6);
+        Due.fault("task a", 2, 6);
+        Due.fault("task a share 1;", 2, 7);
+        Due.fault("task a b share 1;", 2, 7);
+        Due.fault("task a fair 1;", 2, 12);
+        Due.fault("task a fair share;", 2, 17);
+        Due.fault("task a fair share 0;", 4, 18);
+        Due.fault("task a fair share 1000;", 4, 18);
+        Due.fault("task a fair share 999;", 0, -1);
+        Due.fault("task a fair every 1 budget 1 share 1;", 2, 12);
+        Due.fault("task a deadline share 1;", 2, 16);
+        Due.fault("task a deadline every 0 budget 1 share 1;", 4, 22);
+        Due.fault("task a server every 21 budget 1 share 1;", 4, 20);
+        Due.fault("task a server every 20 share 1;", 2, 23);
+        Due.fault("task a server every 20 budget 0 share 1;", 4, 30);
+        Due.fault("task a server every 20 budget 100 share 1;", 4, 30);
+        Due.fault("task a server every 20 budget 99 share 1;", 0, -1);
+        Due.fault("task a deadline every1budget 9 share 1;", 1, 21);
+        Due.fault("task a deadline every1 budget9 share1work1;", 1, 36);
+        Due.fault("task a deadline every1 budget9 share1 work1;", 0, -1);
+        Due.fault("task a fair share 1 work;", 2, 24);
+        Due.fault("task a fair share 1 work 0;", 4, 25);
+        Due.fault("task a fair share 1 work 100;", 4, 25);
+        Due.fault("task a fair share 1 sleep 0;", 4, 26);
+        Due.fault("task a fair share 1 sleep 100;", 4, 26);
+        Due.fault("task a fair share 1 lock 100;", 4, 25);
+        Due.fault("task a fair share 1 unlock 100;", 4, 27);
+        Due.fault("task a fair share 1 wait 100;", 4, 25);
+        Due.fault("task a fair share 1 ring 100;", 4, 25);
+        Due.fault("task a fair share 1 lock 99 unlock 99 wait 99 ring 99 lock 0 unlock 0 wait 0 ring 0 work 99 sleep 99;", 0, -1);
+        Due.fault("task a fair share 1 work 1", 2, 26);
+        Due.fault("task a fair share 1 work 1;;", 2, 27);
+        Due.fault("task a fair share 1 work 1 share 1;", 2, 27);
+        Due.fault("task a fair share 1 work 1 task b", 2, 27);
+        Due.fault("task a fair share 1;task a fair share 1;", 3, 25);
+        Due.fault("task a fair share 1;task ab fair share 1;task b fair share 1;", 0, -1);
+        Due.fault("task abcdefgh fair share 1;task abcdefgh", 3, 32);
+        Due.fault("task\na\nfair\nshare\n1\nwork\n1\n;\n", 0, -1);
+        Due.fault("task a fair share 1;.", 1, 20);
     }
 
     private static void limits() {
@@ -213,10 +203,10 @@ public final class TextTest {
         for (int i = 0; i < 10; i++) {
             ten.append("task ").append((char) ('a' + i)).append(" fair share 1;");
         }
-        fault(ten.toString(), 0, -1);
-        fault(ten + "task", 2, 200);
-        fault(ten + "task a", 2, 200);
-        fault(ten + " cores 2;", 0, -1);
+        Due.fault(ten.toString(), 0, -1);
+        Due.fault(ten + "task", 2, 200);
+        Due.fault(ten + "task a", 2, 200);
+        Due.fault(ten + " cores 2;", 0, -1);
         StringBuilder ops = new StringBuilder("task a fair share 1");
         for (int i = 0; i < 50; i++) {
             ops.append(" lock 1");
@@ -225,18 +215,18 @@ public final class TextTest {
         for (int i = 0; i < 40; i++) {
             ops.append(" work 9");
         }
-        fault(ops + ";", 0, -1);
-        fault(ops + " work 0;", 2, ops.length() + 1);
-        fault(ops + ";task c fair share 1;", 0, -1);
-        fault(ops + ";task c fair share 1 work 1;", 2, ops.length() + 21);
+        Due.fault(ops + ";", 0, -1);
+        Due.fault(ops + " work 0;", 2, ops.length() + 1);
+        Due.fault(ops + ";task c fair share 1;", 0, -1);
+        Due.fault(ops + ";task c fair share 1 work 1;", 2, ops.length() + 21);
         FairWheel x = Due.of(ops + ";");
         Due.due("ops", x.about(10), 90);
         StringBuilder full = new StringBuilder("cores 2;");
         while (full.length() < 1700) {
             full.append(' ');
         }
-        fault(full.toString(), 0, -1);
-        fault(full.substring(0, 1699) + "x", 2, 1699);
-        fault(full.substring(0, 1692) + "locks 1 ", 2, 1700);
+        Due.fault(full.toString(), 0, -1);
+        Due.fault(full.substring(0, 1699) + "x", 2, 1699);
+        Due.fault(full.substring(0, 1692) + "locks 1 ", 2, 1700);
     }
 }

@@ -21,12 +21,6 @@ public final class WheelTest {
         Due.finish("WheelTest");
     }
 
-    private static void tasks(String what, FairWheel x, int task, int... want) {
-        for (int i = 0; i < want.length; i++) {
-            Due.due(what + " task(" + task + ", " + i + ")", x.task(task, i), want[i]);
-        }
-    }
-
     private static void run() {
         FairWheel x = Due.of("task a fair share 1 work 99;");
         Due.due("run 0", x.run(0), 0);
@@ -79,21 +73,21 @@ public final class WheelTest {
     private static void budgets() {
         FairWheel x = Due.of("task d deadline every 4 budget 2 share 1 work 5;"
                 + "task s server every 5 budget 1 share 2 work 6;task f fair share 1 work 9;");
-        tasks("ahead of all", x, 0, 0, 0, 5, 0, 0, 1, 0, 0, 0, -1, 0, 0, 0, -2);
-        tasks("ahead of all", x, 1, 0, 0, 6, 0, 0, 2, 0, 0, 0, -1, 0, 0, 0, -2);
+        Due.dueTask("ahead of all", x, 0, 0, 0, 5, 0, 0, 1, 0, 0, 0, -1, 0, 0, 0, -2);
+        Due.dueTask("ahead of all", x, 1, 0, 0, 6, 0, 0, 2, 0, 0, 0, -1, 0, 0, 0, -2);
         x.run(13);
         Due.dueRow("budgets", x, 0, "0011001201112");
-        tasks("budgets", x, 0, 4, 1, 0, 0, 0, 1, 1, 12, 0, -1, 0, 4, 2, -2);
-        tasks("budgets", x, 1, 4, 1, 0, 1500, 0, 2, 0, 15, 0, -1, 0, 6, 2, -2);
-        tasks("budgets", x, 2, 0, 0, 7, 2000, 0, 1, 0, 0, 0, -1, 0, 11, 7, -2);
+        Due.dueTask("budgets", x, 0, 4, 1, 0, 0, 0, 1, 1, 12, 0, -1, 0, 4, 2, -2);
+        Due.dueTask("budgets", x, 1, 4, 1, 0, 1500, 0, 2, 0, 15, 0, -1, 0, 6, 2, -2);
+        Due.dueTask("budgets", x, 2, 0, 0, 7, 2000, 0, 1, 0, 0, 0, -1, 0, 11, 7, -2);
     }
 
     private static void missed() {
         FairWheel x = Due.of("task a deadline every 2 budget 2 share 1 work 9;"
                 + "task b deadline every 3 budget 3 share 1 work 9;");
         x.run(4);
-        tasks("missed", x, 0, 0, 0, 6, 0, 0, 1, 1, 4, 0, -1, 0);
-        tasks("missed", x, 1, 0, 0, 8, 0, 0, 1, 3, 6, 0, -1, 1);
+        Due.dueTask("missed", x, 0, 0, 0, 6, 0, 0, 1, 1, 4, 0, -1, 0);
+        Due.dueTask("missed", x, 1, 0, 0, 8, 0, 0, 1, 3, 6, 0, -1, 1);
         x.run(8);
         Due.dueRow("missed", x, 0, "001000001001");
         Due.due("a missed", x.task(0, 10), 2);
@@ -156,9 +150,9 @@ public final class WheelTest {
         Due.due("its op", x.task(1, 1), 2);
         x.run(8);
         Due.dueRow("chain", x, 0, "231012103000123");
-        tasks("chain", x, 0, 4, 3, 0, 5000, 0, 1);
-        tasks("chain", x, 1, 4, 4, 0, 4000, 0, 1);
-        tasks("chain", x, 2, 4, 3, 0, 3000, 0, 1);
+        Due.dueTask("chain", x, 0, 4, 3, 0, 5000, 0, 1);
+        Due.dueTask("chain", x, 1, 4, 4, 0, 4000, 0, 1);
+        Due.dueTask("chain", x, 2, 4, 3, 0, 3000, 0, 1);
         Due.due("none ended has a place", x.place(2), -1);
         Due.due("holder", x.holder(0), -1);
         Due.due("holder", x.holder(1), -1);
@@ -171,7 +165,7 @@ public final class WheelTest {
         Due.due("lent", x.place(0), 1);
         x.run(3);
         Due.dueRow("lent", x, 0, "001---1000");
-        tasks("lent", x, 0, 4, 3, 0, 0, 0, 1, 0, 10, 0, -1, 0, 5, 5);
+        Due.dueTask("lent", x, 0, 4, 3, 0, 0, 0, 1, 0, 10, 0, -1, 0, 5, 5);
         Due.due("both ended", x.about(5), 0);
         Due.due("nobody holds it", x.holder(0), -1);
     }
@@ -207,10 +201,10 @@ public final class WheelTest {
         Due.due("place", x.place(0), 0);
         Due.due("place", x.place(1), 1);
         Due.due("kill", x.kill(0), true);
-        tasks("killed", x, 0, 4, 2, 0, 3000, 0, 1, 0, 0, 0, -1);
-        tasks("had it as its last", x, 1, 4, 3, 0, 4000, 0, 1, 0, 0, 0, -1);
-        tasks("had it by that", x, 2, 4, 3, 0, 4000, 0, 1, 0, 0, 0, -1);
-        tasks("holds it now", x, 3, 0, 2, 1, 5000, 0, 1, 0, 0, 0, -1);
+        Due.dueTask("killed", x, 0, 4, 2, 0, 3000, 0, 1, 0, 0, 0, -1);
+        Due.dueTask("had it as its last", x, 1, 4, 3, 0, 4000, 0, 1, 0, 0, 0, -1);
+        Due.dueTask("had it by that", x, 2, 4, 3, 0, 4000, 0, 1, 0, 0, 0, -1);
+        Due.dueTask("holds it now", x, 3, 0, 2, 1, 5000, 0, 1, 0, 0, 0, -1);
         Due.due("holder", x.holder(0), 3);
         Due.due("holder", x.holder(1), -1);
         Due.due("holder", x.holder(2), -1);
@@ -300,7 +294,7 @@ public final class WheelTest {
     private static void sleepers() {
         FairWheel x = Due.of("task a fair share 1 sleep 1 work 1;");
         x.run(1);
-        tasks("sleeps", x, 0, 3, 0, 0, 1000, 0, 1, 0, 0, 0, 2);
+        Due.dueTask("sleeps", x, 0, 3, 0, 0, 1000, 0, 1, 0, 0, 0, 2);
         x.run(2);
         Due.dueRow("sleeps", x, 0, "0-0");
         // a sleeper's end lets go its lock ahead of the choice
@@ -339,7 +333,7 @@ public final class WheelTest {
                 + "task c fair share 1 lock 0 work 9;task d fair share 1 lock 0;");
         x.run(1);
         Due.due("sleeper", x.wake(0), true);
-        tasks("woken", x, 0, 0, 1, 1);
+        Due.dueTask("woken", x, 0, 0, 1, 1);
         Due.due("not again", x.wake(0), false);
         Due.due("belled", x.wake(1), true);
         Due.due("its last op", x.task(1, 0), 4);
