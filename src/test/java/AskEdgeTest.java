@@ -220,6 +220,7 @@ public final class AskEdgeTest {
         risk(3, "L0 U0 L1/L1 L0");
         risk(3, "L0 U0 L0 L1/L1 L0", 0, 1);
         risk(3, "L0 work 9 sleep 9 wait 99 ring 99 L1/L1 L0", 0, 1);
+        risk(3, "L1 work 1 sleep 1 wait 1 ring 1 L0/L0 L1", 0, 1);
         risk(1, "L0 L1/L1 L0");
         risk(0, "L0 L1/L1 L0");
         risk(3, "L0 L1 U0 U1 L1 L0", 0, 1);
@@ -256,6 +257,11 @@ public final class AskEdgeTest {
         x.kill(0);
         x.kill(1);
         Due.due("the programs stay", x.risk(0), 2);
+        Due.kernel(x, "locks 2;task a fair share 1 lock 0 lock 1;");
+        Due.due("another kernel has none", x.risk(0), 0);
+        Due.due("another kernel has none", x.risk(1), -1);
+        Due.kernel(x, "locks 2;task a fair share 1 lock 1 lock 0;");
+        Due.due("nor by what an earlier one had", x.risk(0), 0);
         x = new FairWheel();
         Due.due("none", x.risk(0), 0);
         Due.due("none", x.risk(1), -1);
@@ -708,6 +714,7 @@ public final class AskEdgeTest {
         Due.due("choices are no part of it", x.about(6), 1);
         Due.due("sights are no part of it", x.about(7), 1);
         Due.due("the time is no part of it", x.about(8), 4);
+        keptWhatIsCounted();
         // a ring is a task's own
         x = Due.of("locks 2;task a fair share 1 lock 0 lock 1;task b fair share 1 lock 1 lock 0;");
         x.run(3);
@@ -719,6 +726,48 @@ public final class AskEdgeTest {
         Due.due("no ring yet", x.ring(1, 0), -1);
         x.back(1);
         Due.due("a ring again", x.ring(1, 1), 0);
+        // another ring of the same task comes between: who was in it is kept, not only how many
+        x = Due.of("locks 3;task a fair share 1 lock 0 lock 2;task b fair share 1 lock 0 lock 2;"
+                + "task c fair share 1 lock 2 sleep 5 lock 0;");
+        x.image(1);
+        x.run(12);
+        Due.due("a ring with a", x.ring(2, 1), 0);
+        x.image(0);
+        x.back(1);
+        x.kill(0);
+        x.run(12);
+        Due.due("a ring with b", x.ring(2, 1), 1);
+        x.back(0);
+        Due.due("a ring with a again", x.ring(2, 1), 0);
+        Due.due("itself", x.ring(2, 0), 2);
+        Due.due("each once", x.ring(2, 2), -1);
+    }
+
+    /** How often it MISSED and how long it has WAITED on end are as they were, too. */
+    private static void keptWhatIsCounted() {
+        FairWheel x = Due.of("task a server every 2 budget 2 share 1 work 99;task b deadline every 3 budget 2 share 1 work 99;"
+                + "task c idle share 1 work 9;");
+        x.image(1);
+        x.run(4);
+        x.image(0);
+        String before = Look.all(x);
+        Due.due("b missed", x.task(1, 10), 1);
+        Due.due("c waited on end", x.task(2, 12), 4);
+        x.run(9);
+        Due.due("b missed more", x.task(1, 10) > 1, true);
+        x.back(1);
+        Due.due("none missed", x.task(1, 10), 0);
+        x.kill(0);
+        x.kill(1);
+        x.run(3);
+        Due.due("c was chosen", x.task(2, 2), 6);
+        x.back(0);
+        Due.due("as it was", Look.all(x).equals(before), true);
+        x.run(1);
+        Due.due("on end with what was", x.task(2, 12), 5);
+        x.back(1);
+        x.run(1);
+        Due.due("on end from the beginning", x.task(2, 12), 1);
     }
 
     /** "NONE, doing nothing, if nothing was" */

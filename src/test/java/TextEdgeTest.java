@@ -17,6 +17,8 @@ public final class TextEdgeTest {
         asLongAsCanBe();
         noLetterBehindANumber();
         wordsThatAreNoNames();
+        wordsLetterByLetter();
+        whereTokensStand();
         countsAndTheirBounds();
         onceEach();
         tenTasks();
@@ -28,6 +30,8 @@ public final class TextEdgeTest {
         atOnePlaceTheLeast();
         namesToldAlready();
         kernelTakesTheTape();
+        allAtFirst();
+        whatIsNotToldIsAsAtFirst();
         kernelClearsWhatWas();
         aFaultLeavesAll();
         faultOfTheLatest();
@@ -145,6 +149,25 @@ public final class TextEdgeTest {
         Due.due("fed", Due.feed(x, "cores 2;"), 8);
         Due.due("only the new ones", x.kernel(), 0);
         Due.due("cores", x.about(1), 2);
+        // what stood behind the end is no part of the text: no letter behind the N, no longer word, no more digits
+        for (String text : new String[] {"cores 2x;", "cores 2;", "cores 25;", "cores 2;?"}) {
+            x.end(0);
+            Due.feed(x, text);
+            x.end(7);
+            Due.due("cut", x.kernel(), -1);
+            Due.due("the end is missing", x.fault(0), 2);
+            Due.due("at the end", x.fault(1), 7);
+        }
+        x.end(0);
+        Due.feed(x, "taskabcdefgh");
+        x.end(4);
+        Due.due("cut", x.kernel(), -1);
+        Due.due("at the end", x.fault(1), 4);
+        x.end(0);
+        Due.feed(x, "cores 3;work");
+        x.end(8);
+        Due.due("cut", x.kernel(), 0);
+        Due.due("cores", x.about(1), 3);
     }
 
     /** "words (a .. z, 8 at most)" */
@@ -252,6 +275,51 @@ public final class TextEdgeTest {
         }
         for (String word : new String[] {"kernel", "line", "kind", "op", "n", "name", "core", "bell", "none", "end"}) {
             Due.good("task " + word + " fair share 1;");
+        }
+    }
+
+    /** A word stands for itself only with all its letters. */
+    private static void wordsLetterByLetter() {
+        for (String word : WORDS) {
+            for (int i = 0; i < word.length(); i++) {
+                String other = word.substring(0, i) + "q" + word.substring(i + 1);
+                Due.good("task " + other + " fair share 1;");
+                Due.fault(other + " 1;", 2, 0);
+            }
+        }
+    }
+
+    private static final String LINES = " cores locks bells task ";
+    private static final String OPS = " work lock unlock wait ring sleep ; ";
+    /** Beginnings of texts, and what may stand behind them. */
+    private static final String[][] GRAMMAR = {
+        {"", LINES}, {"cores", " 1 "}, {"locks", " 1 "}, {"bells", " 1 "}, {"cores 1", " ; "}, {"cores 1;", " locks bells task "},
+        {"locks 1;", " cores bells task "}, {"bells 1;", " cores locks task "}, {"task", " x "},
+        {"task a", " fair batch idle deadline server "}, {"task a fair", " share "}, {"task a batch", " share "},
+        {"task a idle", " share "}, {"task a deadline", " every "}, {"task a server", " every "}, {"task a server every", " 1 "},
+        {"task a server every 1", " budget "}, {"task a server every 1 budget", " 1 "}, {"task a server every 1 budget 1", " share "},
+        {"task a fair share", " 1 "}, {"task a fair share 1", OPS}, {"task a fair share 1 work", " 1 "},
+        {"task a fair share 1 lock", " 1 "}, {"task a fair share 1 unlock", " 1 "}, {"task a fair share 1 wait", " 1 "},
+        {"task a fair share 1 ring", " 1 "}, {"task a fair share 1 sleep", " 1 "}, {"task a fair share 1 ring 1", OPS},
+        {"task a fair share 1 ring 1;", LINES}};
+
+    /** "2 one that can't stand there": every TOKEN behind every beginning. */
+    private static void whereTokensStand() {
+        String[] tokens = ("x 1 ; " + String.join(" ", WORDS)).split(" ");
+        for (String[] rule : GRAMMAR) {
+            String ahead = rule[0] + " ";
+            for (String token : tokens) {
+                String text = ahead + token;
+                if (!rule[1].contains(" " + token + " ")) {
+                    Due.fault(text, 2, ahead.length());
+                    Due.fault(text + " ?", 2, ahead.length());
+                } else if (token.equals(";")) {
+                    Due.good(text);
+                } else {
+                    Due.fault(text, 2, text.length());
+                }
+            }
+            Due.fault(ahead + "?", 1, ahead.length());
         }
     }
 
@@ -489,6 +557,51 @@ public final class TextEdgeTest {
         Due.feed(x, Due.blanks(1700));
         x.kernel();
         Due.due("room for as much", Due.feed(x, Due.blanks(1700)), 1700);
+    }
+
+    /** "all at first": nothing of a worn TASK of the same number is left. */
+    private static void allAtFirst() {
+        String worn = "locks 2;task a server every 2 budget 1 share 3 lock 0 work 1 lock 1 work 1;"
+                + "task b deadline every 3 budget 3 share 1 lock 1 lock 0 work 2;task c fair share 1 work 9;";
+        for (int ticks = 1; ticks <= 12; ticks++) {
+            FairWheel x = Due.of(worn);
+            x.run(ticks);
+            x.image(0);
+            x.soon(2);
+            x.enough(2, 50);
+            Due.kernel(x, worn);
+            Look.same("all at first behind " + ticks, x, Due.of(worn));
+            x.run(ticks);
+            FairWheel twin = Due.of(worn);
+            twin.run(ticks);
+            Look.same("and so it goes on behind " + ticks, x, twin);
+        }
+        FairWheel x = Due.of(worn);
+        x.run(20);
+        Due.due("b erred", x.task(1, 8) + x.task(0, 8), 4);
+        int erred = x.task(1, 8) == 4 ? 1 : 0;
+        Due.due("its ring", x.ring(erred, 1), 1 - erred);
+        Due.kernel(x, worn);
+        Due.due("no ring", x.ring(erred, 0), -1);
+        Due.due("no error", x.task(erred, 8), 0);
+    }
+
+    /** "; 1), .. ; 0), .. ; 0)": what a text does not tell is so, whatever earlier texts told. */
+    private static void whatIsNotToldIsAsAtFirst() {
+        FairWheel x = new FairWheel();
+        for (int i = 0; i < 4; i++) {
+            Due.due("told", Due.kernel(x, "cores 4;locks 6;bells 4;" + tasks(10, ops(9, "lock 5"))), 10);
+            Due.due("a fault between", Due.kernel(x, "cores 3;locks 5;bells 3;task a fair share 1 work 1;?"), -1);
+            Due.due("it leaves what was told", x.about(1) + 10 * x.about(2) + 100 * x.about(3), 464);
+            Due.due("it leaves the ops", x.about(10), 90);
+            for (int j = 0; j <= i; j++) {
+                Due.due("nothing told", Due.kernel(x, ""), 0);
+                Due.due("cores", x.about(1), 1);
+                Due.due("locks", x.about(2), 0);
+                Due.due("bells", x.about(3), 0);
+                Due.due("ops", x.about(10), 0);
+            }
+        }
     }
 
     /** "no CHOICES are TOLD, SIGHTS are none, BOXES are empty then; the TIME stays" */

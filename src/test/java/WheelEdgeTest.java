@@ -33,6 +33,7 @@ public final class WheelEdgeTest {
         share();
         kill();
         wake();
+        aFullHouse();
         Due.finish("WheelEdgeTest");
     }
 
@@ -788,5 +789,58 @@ public final class WheelEdgeTest {
         Due.due("woken", x.wake(0), true);
         Due.due("ended", x.task(0, 0), 4);
         Due.due("b has it", x.holder(0), 1);
+    }
+
+    /** Ten tasks and six locks, the first and the last of each: none is beyond them. */
+    private static void aFullHouse() {
+        StringBuilder text = new StringBuilder("cores 4;locks 6;bells 4;task a fair share 1 work 1 lock 5 work 9;");
+        for (int i = 1; i < 9; i++) {
+            text.append("task ").append((char) ('a' + i)).append(" idle share 1 wait 3;");
+        }
+        FairWheel x = Due.of(text + "task z batch share 1 lock 5 lock 0 work 9;");
+        x.run(3);
+        Due.due("the last task holds the last lock", x.holder(5), 9);
+        Due.due("the first waits", x.waits(5), 1);
+        Due.due("the first lends to the last", x.place(9), 0);
+        Due.due("the first lock", x.holder(0), 9);
+        for (int lock : new int[] {-1, 6, 7}) {
+            Due.due("no lock", x.holder(lock), -1);
+            Due.due("no lock", x.waits(lock), -1);
+        }
+        for (int task : new int[] {-1, 10, 11}) {
+            Due.due("no task", x.task(task, 0), -2);
+            Due.due("no place", x.place(task), -1);
+            Due.due("no ring", x.ring(task, 0), -1);
+            Due.due("no share", x.share(task, 1), -1);
+            Due.due("no kill", x.kill(task), false);
+            Due.due("no wake", x.wake(task), false);
+            Due.due("no soon", x.soon(task), -1);
+            Due.due("no enough", x.enough(task, 9), -1);
+            Due.due("no sight", x.sight(0, task, true), -1);
+            Due.due("no fit", x.fits(task, 0), -1);
+        }
+        Due.due("the last is alive", x.soon(9), 1);
+        Due.due("the last is alive", x.enough(9, 9), 1);
+        Due.due("the last has a share", x.share(9, 5), 1);
+        Due.due("the last is seen", x.sight(0, 9, true), 0);
+        Due.due("the last fits", x.fits(9, 0), (1L << 41) - 2);
+        Due.due("the last is ended", x.kill(9), true);
+        Due.due("the first has its lock", x.holder(5), 0);
+        Due.due("the first is ended", x.kill(0), true);
+        Due.due("nobody's", x.holder(5), -1);
+        // a ring of the first with the last
+        text = new StringBuilder("locks 6;task a idle share 1 lock 5 lock 0;");
+        for (int i = 1; i < 9; i++) {
+            text.append("task ").append((char) ('a' + i)).append(" fair share 1;");
+        }
+        x = Due.of(text + "task z fair share 1 lock 0 sleep 1 lock 5;");
+        x.run(4);
+        Due.due("the last waits", x.waits(5), 512);
+        Due.due("the first has its place", x.place(0), 9);
+        x.run(1);
+        Due.due("the first errs", x.task(0, 8), 4);
+        Due.due("itself", x.ring(0, 0), 0);
+        Due.due("the last", x.ring(0, 1), 9);
+        Due.due("each once", x.ring(0, 2), -1);
     }
 }
