@@ -7,6 +7,7 @@ public final class FairWheel {
 
     private static final int NO_SUCH = -2;
     private static final int MAX_BYTES = 1700;
+    private static final int FEED_BYTES = 20;
     private static final int MAX_TASKS = 10;
     private static final int MAX_OPS = 90;
     private static final int MAX_CORES = 4;
@@ -15,6 +16,9 @@ public final class FairWheel {
     private static final int MAX_TICK = 2000;
     private static final int MAX_RUN = 200;
     private static final int MAX_SHARE = 999;
+    private static final int MAX_EVERY = 20;
+    private static final int MAX_BUDGET = 99;
+    private static final int MAX_NUMBER = 99;
     private static final int MAX_BOXES = 3;
     private static final int MAX_CHOICES = 60;
     private static final int MAX_SIGHTS = 20;
@@ -120,7 +124,7 @@ public final class FairWheel {
 
     /** Twenty bytes come behind those on the TAPE: how many there are; NONE if there would be too many. */
     public int feed(int a, int b, int c, int d, int e) {
-        if (tape.size + 20 > MAX_BYTES) {
+        if (tape.size + FEED_BYTES > MAX_BYTES) {
             return NONE;
         }
         tape.append(a);
@@ -497,6 +501,7 @@ public final class FairWheel {
         return false;
     }
 
+    /** The greatest number that divides both. Each second step halves the greater one, so 200 are more than enough. */
     private static long commonPart(long a, long b) {
         long high = a;
         long low = b;
@@ -604,7 +609,7 @@ public final class FairWheel {
         }
 
         void next() {
-            while (at < tape.size && (tape.at(at) == 32 || tape.at(at) == 10)) {
+            while (at < tape.size && isBlank(tape.at(at))) {
                 at++;
             }
             start = at;
@@ -652,6 +657,10 @@ public final class FairWheel {
                 }
             }
             return NAME;
+        }
+
+        private static boolean isBlank(int sign) {
+            return sign == ' ' || sign == '\n';
         }
 
         private static boolean isLetter(int sign) {
@@ -759,11 +768,11 @@ public final class FairWheel {
             if (kind != DEADLINE && kind != SERVER) {
                 return true;
             }
-            if (!pass(EVERY) || !readNumber(1, 20)) {
+            if (!pass(EVERY) || !readNumber(1, MAX_EVERY)) {
                 return false;
             }
             into.every[task] = number;
-            if (!pass(BUDGET) || !readNumber(1, 99)) {
+            if (!pass(BUDGET) || !readNumber(1, MAX_BUDGET)) {
                 return false;
             }
             into.budget[task] = number;
@@ -781,7 +790,7 @@ public final class FairWheel {
                     return fail(FAULT_STAND);
                 }
                 scanner.next();
-                if (!readNumber(op == WORK || op == SLEEP ? 1 : 0, 99)) {
+                if (!readNumber(op == WORK || op == SLEEP ? 1 : 0, MAX_NUMBER)) {
                     return false;
                 }
                 into.codes[into.ops] = op;
@@ -1198,7 +1207,8 @@ public final class FairWheel {
 
         /**
          * A TASK ENDS and lets go its locks. Who gets one may END by that at once, ahead of the next lock: such
-         * ones are laid on top of each other, and each goes on where the one above it has nothing left.
+         * ones are laid on top of each other, and each goes on where the one above it has nothing left. Each turn
+         * wakes a LOCKED TASK, frees a lock or takes one off the top: far fewer than 1000.
          */
         void close(int who) {
             tasks[who].stop(ENDED, NONE);

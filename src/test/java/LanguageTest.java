@@ -1,19 +1,27 @@
 import com.sun.source.tree.AssertTree;
 import com.sun.source.tree.BinaryTree;
+import com.sun.source.tree.BlockTree;
 import com.sun.source.tree.ClassTree;
 import com.sun.source.tree.CompilationUnitTree;
 import com.sun.source.tree.CompoundAssignmentTree;
+import com.sun.source.tree.DoWhileLoopTree;
+import com.sun.source.tree.EnhancedForLoopTree;
 import com.sun.source.tree.ExpressionTree;
+import com.sun.source.tree.ForLoopTree;
 import com.sun.source.tree.ImportTree;
+import com.sun.source.tree.InstanceOfTree;
 import com.sun.source.tree.LambdaExpressionTree;
 import com.sun.source.tree.MemberReferenceTree;
 import com.sun.source.tree.MethodInvocationTree;
 import com.sun.source.tree.MethodTree;
+import com.sun.source.tree.NewArrayTree;
 import com.sun.source.tree.NewClassTree;
 import com.sun.source.tree.SynchronizedTree;
 import com.sun.source.tree.ThrowTree;
 import com.sun.source.tree.TryTree;
+import com.sun.source.tree.TypeCastTree;
 import com.sun.source.tree.VariableTree;
+import com.sun.source.tree.WhileLoopTree;
 import com.sun.source.util.JavacTask;
 import com.sun.source.util.TreePathScanner;
 import com.sun.source.util.Trees;
@@ -91,9 +99,7 @@ public final class LanguageTest {
             Element element = trees.getElement(getCurrentPath());
             classes++;
             boolean outer = tree.getSimpleName().contentEquals("FairWheel");
-            if (!outer && !element.getModifiers().contains(Modifier.STATIC)) {
-                refuse("a class that isn't static: " + tree.getSimpleName());
-            }
+            judgeClass(tree, element.getModifiers(), outer);
             int fields = 0;
             for (Element member : element.getEnclosedElements()) {
                 Set<Modifier> how = member.getModifiers();
@@ -115,6 +121,87 @@ public final class LanguageTest {
                 refuse(tree.getSimpleName() + " has fields: " + fields);
             }
             return super.visitClass(tree, p);
+        }
+
+        private void judgeClass(ClassTree tree, Set<Modifier> how, boolean outer) {
+            if (inside != null) {
+                refuse("a class inside a method: " + inside);
+            }
+            if (outer && !(how.contains(Modifier.PUBLIC) && how.contains(Modifier.FINAL))) {
+                refuse("the class is not public and final");
+            }
+            if (!outer && !how.contains(Modifier.STATIC)) {
+                refuse("a class that isn't static: " + tree.getSimpleName());
+            }
+            if (!outer && (how.contains(Modifier.PUBLIC) || how.contains(Modifier.PROTECTED))) {
+                refuse("a class inside that is shown: " + tree.getSimpleName());
+            }
+        }
+
+        @Override
+        public Void visitBlock(BlockTree tree, Void p) {
+            if (inside == null) {
+                refuse("an initialiser block");
+            }
+            return super.visitBlock(tree, p);
+        }
+
+        /** A loop's own lines show its end: something is held against a bound, or a row is gone through. */
+        private void judgeLoop(ExpressionTree condition) {
+            if (condition == null || !condition.toString().matches(".*[<>].*")) {
+                refuse("a loop whose end can't be seen: " + condition);
+            }
+        }
+
+        @Override
+        public Void visitForLoop(ForLoopTree tree, Void p) {
+            judgeLoop(tree.getCondition());
+            return super.visitForLoop(tree, p);
+        }
+
+        @Override
+        public Void visitWhileLoop(WhileLoopTree tree, Void p) {
+            judgeLoop(tree.getCondition());
+            return super.visitWhileLoop(tree, p);
+        }
+
+        @Override
+        public Void visitDoWhileLoop(DoWhileLoopTree tree, Void p) {
+            judgeLoop(tree.getCondition());
+            return super.visitDoWhileLoop(tree, p);
+        }
+
+        @Override
+        public Void visitEnhancedForLoop(EnhancedForLoopTree tree, Void p) {
+            if (!String.valueOf(trees.getTypeMirror(new com.sun.source.util.TreePath(getCurrentPath(),
+                    tree.getExpression()))).endsWith("[]")) {
+                refuse("a loop over what is no array: " + tree.getExpression());
+            }
+            return super.visitEnhancedForLoop(tree, p);
+        }
+
+        @Override
+        public Void visitTypeCast(TypeCastTree tree, Void p) {
+            if (!tree.getType().toString().matches("int|long|byte|char|short")) {
+                refuse("a cast: " + tree);
+            }
+            return super.visitTypeCast(tree, p);
+        }
+
+        @Override
+        public Void visitInstanceOf(InstanceOfTree tree, Void p) {
+            refuse("instanceof: no class here has kinds");
+            return super.visitInstanceOf(tree, p);
+        }
+
+        @Override
+        public Void visitNewArray(NewArrayTree tree, Void p) {
+            boolean constant = tree.getDimensions() != null && tree.getDimensions().size() == 1
+                    && tree.getDimensions().get(0).toString().matches("MAX_[A-Z]+");
+            if (!constant || inside != null && inside.getKind() != ElementKind.CONSTRUCTOR) {
+                refuse("an array of another length than a document's bound, or made by a call: " + tree);
+            }
+            return super.visitNewArray(tree, p);
         }
 
         @Override

@@ -23,8 +23,8 @@ final class Model {
     }
 
     static final class Unit {
-        int number;
-        String kind;
+        final int number;
+        final String kind;
         int every;
         int refill;
         int share;
@@ -44,6 +44,11 @@ final class Model {
         int longest;
         List<Integer> ring = new ArrayList<>();
 
+        Unit(int number, String kind) {
+            this.number = number;
+            this.kind = kind;
+        }
+
         boolean budgeted() {
             return kind.equals("deadline") || kind.equals("server");
         }
@@ -53,9 +58,7 @@ final class Model {
         }
 
         Unit copy() {
-            Unit u = new Unit();
-            u.number = number;
-            u.kind = kind;
+            Unit u = new Unit(number, kind);
             u.every = every;
             u.refill = refill;
             u.share = share;
@@ -96,9 +99,7 @@ final class Model {
         boolean tame = r.nextInt(3) > 0;
         m.cores = tame && r.nextBoolean() ? 1 : m.cores;
         for (int i = 0; i < tasks; i++) {
-            Unit u = new Unit();
-            u.number = i;
-            u.kind = KINDS[r.nextInt(5)];
+            Unit u = new Unit(i, KINDS[r.nextInt(5)]);
             u.every = 1 + r.nextInt(r.nextBoolean() ? 20 : 6);
             u.refill = 1 + r.nextInt(r.nextInt(4) == 0 ? 99 : 5);
             u.share = 1 + r.nextInt(r.nextInt(4) == 0 ? 999 : 8);
@@ -109,6 +110,34 @@ final class Model {
             }
             for (int j = 0; j < ops; j++) {
                 u.ops.add(m.randomOp(r));
+            }
+            m.units.add(u);
+        }
+        m.begin();
+        return m;
+    }
+
+    /** A kernel whose tasks come to wait for each other: each takes some locks in an order of its own. */
+    static Model tense(Random r) {
+        Model m = new Model();
+        m.cores = 1 + r.nextInt(2) * r.nextInt(4);
+        m.locks = 2 + r.nextInt(5);
+        int tasks = 2 + r.nextInt(9);
+        for (int i = 0; i < tasks; i++) {
+            Unit u = new Unit(i, KINDS[r.nextInt(3) == 0 ? r.nextInt(5) : 0]);
+            u.every = 1 + r.nextInt(12);
+            u.refill = 1 + r.nextInt(4);
+            u.share = 1 + r.nextInt(6);
+            int lock = r.nextInt(m.locks);
+            for (int had = 0; had < Math.min(m.locks, 1 + r.nextInt(3)); had++) {
+                u.ops.add(new Op("lock", (lock + had) % m.locks));
+                if (r.nextInt(3) > 0) {
+                    u.ops.add(new Op("work", 1 + r.nextInt(3)));
+                }
+            }
+            if (r.nextInt(3) == 0) {
+                u.ops.add(new Op("unlock", lock));
+                u.ops.add(new Op("work", 1 + r.nextInt(9)));
             }
             m.units.add(u);
         }
